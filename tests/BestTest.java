@@ -256,6 +256,15 @@ public final class BestTest {
         fewest(7, new int[] {3, 3, 2, 2, 2, 2}, 2, 3, 2, 2);
         fewest(8, new int[] {2, 2, 2, 1, 1}, 1, 2, 2, 2, 1, 1);
         fewest(4, new int[] {2, 2, 1}, 2, 2, 2);
+        SinglesUp x = new SinglesUp();
+        x.heap(3, 1);
+        due.is("23: one of 3", 1, x.fewest(3));
+        x.heap(3, 0);
+        due.is("23: none any more", 0, x.fewest(3));
+        x.heap(8, 1);
+        due.is("23: none goes", -1, x.fewest(8));
+        x.heap(8, 0);
+        due.is("23: none again", 0, x.fewest(8));
     }
 
     /** Twelve groups of all SIZES, and fewer of them, as the Mirror has them. */
@@ -312,6 +321,10 @@ public final class BestTest {
         folded(x, 1, 0, 3, 5, 6, 12, 13, 14);
         folded(x, 7, 0, 0, 0, 1, 1, 2, 3);
         folded(x, 40, 0, 0, 0, 0, 0, 0, 1);
+        SinglesUp y = came(1, 5, 5, 1);
+        folded(y, 5, 0, 1, 2, 3, 4);
+        folded(y, 6, 0, 0, 1, 1, 2);
+        folded(y, 4, 0, 1, 3, 5, 6);
         due.is("31: w 0", -1, x.folded(0, 0, -1));
         due.is("31: w 41", -1, x.folded(0, 41, -1));
         due.is("31: w below 0", -1, x.folded(0, -3, 0));

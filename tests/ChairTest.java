@@ -9,6 +9,8 @@ public final class ChairTest {
         promise16Dear();
         promise16Bound();
         promise16FoundOut();
+        promise16FoundOutBehind();
+        promise16AllFoundOut();
         promise16FoundOutAndAway();
         promise16Parts();
         promise16PartsThatCannot();
@@ -209,6 +211,38 @@ public final class ChairTest {
         due.is("16: FOUND by BOUND", 1, x.count(5));
     }
 
+    private static void promise16FoundOutBehind() {
+        SinglesUp x = ruled("take 9 when sort=3;");
+        came(x, 3);
+        x.come(5, 4, 3);
+        due.is("16: nobody sits", 0, x.chair());
+        due.is("16: one is found out", 1, x.count(5));
+        due.is("16: that passes nobody", 0, x.group(0, 0, 5));
+        due.is("16: who waits", 1, x.group(0, 0, 4));
+        due.is("16: it stood last and stands last", 1, x.group(0, 1, 0));
+        due.is("16: and did not wait", 0, x.group(0, 1, 4));
+    }
+
+    private static void promise16AllFoundOut() {
+        SinglesUp x = ruled("take 99-place when size=7;");
+        Due.tell(x, 4, "line 1 when first=24;");
+        x.set(0, 7);
+        for (int i = 0; i < 48; i++) {
+            x.come(8, 7, 0);
+        }
+        x.seen(0, 24);
+        x.seen(1, 24);
+        due.is("16: nobody sits", 0, x.chair());
+        due.is("16: all are FOUND", 48, x.count(5));
+        due.is("16: 40 have place behind LINE 0", 40, x.line(0, 0));
+        due.is("16: the others are AWAY", 8, x.count(6));
+        due.is("16: LINE 1 is empty", 0, x.line(1, 0));
+        for (int place = 0; place < 40; place++) {
+            due.is("16: as they were found out, " + place, place / 2 + place % 2 * 24, x.group(0, place, 0));
+            due.is("16: says 8, " + place, 8, x.group(0, place, 2));
+        }
+    }
+
     private static void promise16FoundOutAndAway() {
         SinglesUp x = ruled("take 9-place when line=1; take 1;");
         Due.tell(x, 4, "line 1 when sort=3;");
@@ -322,6 +356,11 @@ public final class ChairTest {
         x.seen(0, 2);
         due.is("16: the rest of one, and 1 of the other", 2, x.chair());
         sat("16: the rest first", x, 4, 5);
+        x = ruled("take 1 when place=1 and size=5;");
+        x.parts(6, 3);
+        x.parts(5, 2);
+        came(x, 6, 5);
+        due.is("16: the second one by its WORTH", 3, x.chair());
         x = ruled("take 10;");
         x.parts(8, 1);
         came(x, 8, 8);

@@ -13,6 +13,7 @@ public final class TellTest {
         promise06ComerDraws();
         promise32ImageBringsBackWhatIs();
         promise32ImageBringsBackWhatWasTold();
+        promise32ImageOfThePast();
         promise32ImageLeavesTapeAndFault();
         promise33Told();
         due.end("TellTest");
@@ -194,6 +195,10 @@ public final class TellTest {
         x.run(1);
         due.is("6: chance 0 is none", 1, x.line(0, 0));
         due.is("6: and no draw", 1013904223, x.told(8));
+        x.comer(7, 8, 1, 3, 1);
+        x.run(1);
+        due.is("6: chance 1 is one", 1196435762, x.told(8));
+        due.is("6: but seldom", 1, x.line(0, 0));
     }
 
     private static void promise06ComerDraws() {
@@ -321,6 +326,18 @@ public final class TellTest {
         x.come(2, 2, 0);
         x.come(2, 2, 0);
         due.is("32: what is seen", 2, x.pick(0, 1));
+    }
+
+    private static void promise32ImageOfThePast() {
+        SinglesUp x = new SinglesUp();
+        x.run(60);
+        x.image(true);
+        x.set(1, 50);
+        x.run(59);
+        x.image(false);
+        for (int i = 0; i < 60; i++) {
+            due.is("32: past " + i, 6 * (60 - i), x.past(i, 2));
+        }
     }
 
     private static void promise32ImageLeavesTapeAndFault() {

@@ -145,13 +145,22 @@ public final class TextTest {
         Due.tell(x, 0, "take 100*waited+10*passed+behind;");
         due.is("9: waited twice, passed never", 201, x.group(0, 0, 6));
         x.pick(0, 0);
-        due.is("9: and the last one passed it not", 200, x.group(0, 1, 6));
+        due.is("9: the one behind it", 200, x.group(0, 1, 6));
+        x = new SinglesUp();
+        x.come(4, 4, 0);
+        x.come(1, 1, 0);
+        x.come(1, 1, 0);
+        x.send();
+        x.pick(0, 1);
+        x.send();
+        Due.tell(x, 0, "take 10*passed+waited;");
+        due.is("9: passed once, waited twice", 12, x.group(0, 0, 6));
     }
 
     private static void promise09WorthOfB() {
         SinglesUp x = three();
         String[] so = {"1<2", "1=1", "3>2", "not 1=2", "1=1 or 1=2", "1=1 and 1=1", "1=1 or 1=1 and 1=2",
-            "1=2 and 1=2 or 1=1", "not not 1=1", "1=2 or 1=2 or 1=1", "1=1 and 1=2 or 1=1 and 1=1", "((1=1))", "1+1=2",
+            "1=2 and 1=2 or 1=1", "not not 1=1", "1=2 or 1=2 or 1=1", "1=1 or 1=2 or 1=2", "1=2 or 1=1 or 1=2", "1=1 and 1=2 or 1=1 and 1=1", "((1=1))", "1+1=2",
             "size=2", "sort=3 and behind=1", "0-1<0", "not (not (not (not 1=1)))", "1=2 or not 1=2 and not 1=2",
             "(1=2 or 1=1) and (1=1 or 1=2)", "not (1=2 or 1=2)"};
         String[] notSo = {"2<2", "3<2", "1=2", "2>2", "1>2", "not 1=1", "1=2 or 1=2", "1=1 and 1=2",
@@ -181,6 +190,10 @@ public final class TextTest {
         Due.tell(x, 4, "line 3 when short=3;line 2 when 1=1;");
         due.is("9: 3 is still the shortest", 3, x.come(1, 1, 0));
         due.is("9: 1 is the shortest now", 2, x.come(1, 1, 0));
+        x = new SinglesUp();
+        x.come(1, 1, 0);
+        Due.tell(x, 4, "line 4 when short=1; line 5 when short=2;");
+        due.is("9: LINE 1 is the shortest", 4, x.come(1, 1, 0));
     }
 
     private static void fault(int k, String text, int fault, int place) {
@@ -200,6 +213,14 @@ public final class TextTest {
         fault(0, "Take 1;", 1, 0);
         fault(0, "taker 1;", 1, 0);
         fault(0, "tak 1;", 1, 0);
+        for (String letter : new String[] {"a", "z", "A", "Z"}) {
+            fault(0, "take" + letter + " 1;", 1, 0);
+        }
+        for (String sign : new String[] {"@", "[", "`", "{"}) {
+            fault(0, "take" + sign + " 1;", 1, 4);
+        }
+        fault(0, "take 1:;", 1, 6);
+        fault(0, "take /1;", 1, 5);
         fault(0, "line 1 when 1=1;", 1, 0);
         fault(0, "take 12345;", 1, 5);
         fault(0, "take 00000;", 1, 5);

@@ -5,6 +5,7 @@ public final class ThoughtTest {
     public static void main(String[] args) {
         promise24Thought();
         promise24ThoughtWithComers();
+        promise24WhatComesToIt();
         promise24NothingStays();
         promise24Wrong();
         promise25Price();
@@ -16,6 +17,7 @@ public final class ThoughtTest {
         promise28Needed();
         promise30Which();
         promise30WhichTies();
+        promise30WhichAll();
         due.end("ThoughtTest");
     }
 
@@ -85,6 +87,27 @@ public final class ThoughtTest {
         thought(x, 0, 0, 4, 3, 7, 5, 0, 0, 0, 0);
     }
 
+    /** What was AWAY, FOUND or WAITED before does not come to it; the LONGEST stays. */
+    private static void promise24WhatComesToIt() {
+        SinglesUp x = came("take 1 when line=1; take 1 when size=8;");
+        Due.tell(x, 4, "line 1 when sort=3;");
+        for (int i = 0; i < 42; i++) {
+            x.come(1, 1, 0);
+        }
+        x.come(5, 1, 3);
+        x.chair();
+        due.is("24: AWAY", 3, x.count(6));
+        due.is("24: FOUND", 1, x.count(5));
+        x.come(5, 1, 3);
+        x.comer(0, 1, 1, 0, 1000);
+        thought(x, 0, 0, 4, 2, 8, 0, 0, 3, 1, 0);
+        x = came("take 9-place;", 8, 8, 8);
+        x.set(0, 8);
+        thought(x, 0, 0, 8, 3, 0, 24, 3, 0, 0, 2);
+        x.run(3);
+        thought(x, 0, 0, 8, 1, 8, 0, 0, 0, 0, 2);
+    }
+
     private static void promise24NothingStays() {
         SinglesUp x = came("take 9-place;", 2, 5, 2, 2);
         x.comer(0, 2, 2, 0, 500);
@@ -148,6 +171,7 @@ public final class ThoughtTest {
         due.is("25: n 0", -1000000, x.price(1, 0));
         due.is("25: n 41", -1000000, x.price(1, 41));
         due.is("25: bound 99, n 40", 0, x.price(99, 40));
+        due.is("25: n 1", 0, x.price(1, 1));
     }
 
     private static void promise26Till() {
@@ -359,5 +383,17 @@ public final class ThoughtTest {
         which(y, 2, 8, 0, 0);
         due.is("30: by the RULE IN FORCE", true, y.set(5, 3));
         which(y, 2, 0, 8, 0);
+    }
+
+    private static void promise30WhichAll() {
+        SinglesUp x = came("take 1 when line=1;");
+        x.set(0, 8);
+        // The draws are 563, 577, 494, 947; 749, 198, 764, 15: first 1, 3 and 4 come, then 2 and 4.
+        x.comer(0, 1, 1, 0, 564);
+        x.comer(1, 2, 2, 0, 577);
+        x.comer(2, 3, 3, 0, 495);
+        x.comer(3, 4, 4, 0, 948);
+        due.is("30: all sizes", 15, x.which(2, 0));
+        due.is("30: without 2", 13, x.which(1, 0));
     }
 }

@@ -265,11 +265,7 @@ public final class SinglesUp {
         if (n < 1 || n > AHEAD || what < 0 || what > 5) {
             return NONE;
         }
-        mind.imagine(hill);
-        mind.tell(RULE, rule);
-        mind.tell(BOUND, bound);
-        mind.tell(SEATS, seats);
-        mind.chair.turns(mind.dream, n);
+        mind.imagine(hill, rule, bound, seats, n);
         return mind.gained(hill, what);
     }
 
@@ -277,7 +273,12 @@ public final class SinglesUp {
         if (!canTell(BOUND, bound) || n < 1 || n > AHEAD) {
             return NOTHING;
         }
-        return mind.emptyWith(hill, bound, n) - mind.emptyWith(hill, 0, n);
+        int rule = hill.told[RULE];
+        int seats = hill.told[SEATS];
+        mind.imagine(hill, rule, bound, seats, n);
+        int with = mind.gained(hill, 0);
+        mind.imagine(hill, rule, 0, seats, n);
+        return with - mind.gained(hill, 0);
     }
 
     public int till(int line, int place) {
@@ -1376,17 +1377,16 @@ public final class SinglesUp {
         private final Chair chair = new Chair();
         private final int[] gains = new int[3];
 
-        void imagine(Hill now) {
+        /** n TURNS with these told in place. */
+        void imagine(Hill now, int rule, int bound, int seats, int n) {
             dream.copyFrom(now);
+            dream.told[RULE] = rule;
+            dream.told[BOUND] = bound;
+            dream.told[SEATS] = seats;
+            chair.turns(dream, n);
         }
 
-        void tell(int what, int v) {
-            if (canTell(what, v)) {
-                dream.told[what] = v;
-            }
-        }
-
-        /** What came to the hill, as thought() numbers it. */
+        /** What came by that, as thought() numbers it. */
         int gained(Hill now, int what) {
             switch (what) {
                 case 0:
@@ -1420,21 +1420,14 @@ public final class SinglesUp {
             return most;
         }
 
-        int emptyWith(Hill now, int bound, int n) {
-            imagine(now);
-            tell(BOUND, bound);
-            chair.turns(dream, n);
-            return gained(now, 0);
-        }
-
         /** TILL of the group at a spot. */
         int tillSits(Hill now, int spot) {
-            imagine(now);
+            dream.copyFrom(now);
             return countTill(now.lines.get(spot, NUMBER));
         }
 
         int tillJoined(Hill now, int first, int second) {
-            imagine(now);
+            dream.copyFrom(now);
             dream.lines.join(first, second);
             return countTill(now.lines.get(second, NUMBER));
         }
@@ -1451,7 +1444,7 @@ public final class SinglesUp {
         }
 
         int emptyNeeded(Hill now, int n) {
-            imagine(now);
+            dream.copyFrom(now);
             int empty = 0;
             for (int i = 0; i < n; i++) {
                 int before = dream.tally[EMPTY];
@@ -1465,7 +1458,7 @@ public final class SinglesUp {
         /** WHICH, as which() numbers it. */
         int bestSet(Hill now, int n, int what) {
             for (int set = 0; set < SETS; set++) {
-                imagine(now);
+                dream.copyFrom(now);
                 dream.sizesSet = set;
                 chair.turns(dream, n);
                 int empty = gained(now, 0);
@@ -1625,7 +1618,8 @@ public final class SinglesUp {
                 if (first == NONE) {
                     return NONE;
                 }
-                chairs[heapNumber] = 1 + chairs[heapNumber - numbers[first]];
+                int rest = heapNumber - numbers[first];
+                chairs[heapNumber] = rest >= 0 && rest < HEAPS ? 1 + chairs[rest] : NONE;
             }
             return heaps >= 1 && heaps <= HEAPS ? chairs[heaps - 1] : NONE;
         }
