@@ -103,6 +103,11 @@ public final class BestTest {
         x.come(2, 2, 3);
         best("20: with one of another sort", x, 4, 0, 4);
         x = new SinglesUp();
+        x.come(4, 4, 1);
+        x.come(4, 4, 1);
+        x.come(3, 3, 0);
+        best("20: children that fill all may not go", x, 3, 2);
+        x = new SinglesUp();
         x.come(1, 1, 1);
         x.come(1, 1, 1);
         x.come(3, 3, 1);
@@ -127,6 +132,20 @@ public final class BestTest {
         best("20: six children and two", x, 8, 0, 1, 2, 3, 4, 5, 300);
         x.set(0, 7);
         best("20: five children and two", x, 7, 0, 1, 2, 3, 4, 300);
+        x = new SinglesUp();
+        Due.tell(x, 4, "line 1 when short=1; line 2 when short=2; line 3 when short=3; line 4 when short=4;"
+            + "line 5 when short=5;");
+        for (int i = 0; i < 150; i++) {
+            x.come(i == 143 ? 1 : 2, 1, 0);
+        }
+        for (int line = 0; line < 6; line++) {
+            x.seen(line, 24);
+        }
+        x.set(0, 3);
+        best("20: the first and the last of 144", x, 3, 0, 523);
+        x.seen(5, 23);
+        best("20: without the last one", x, 2, 0);
+        due.is("20: which makes 1 more", 1, x.look(5));
         x = came(1, 1, 1, 1, 1, 1, 1, 1, 1);
         x.set(0, 8);
         best("20: eight", x, 8, 0, 1, 2, 3, 4, 5, 6, 7);
