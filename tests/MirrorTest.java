@@ -75,6 +75,17 @@ public final class MirrorTest {
         return r.nextInt(3) > 0 ? near(0, 4) : near(0, 39);
     }
 
+    /** LINE and place of one that stands there, if any does in the LINE that is found first. */
+    private int[] aStanding() {
+        int from = r.nextInt(6);
+        for (int i = 0; i < 6; i++) {
+            int line = (from + i) % 6;
+            int count = m.line(line, 0);
+            if (count > 0) return new int[] {line, r.nextInt(count)};
+        }
+        return new int[] {aLine(), aPlace()};
+    }
+
     // ---- texts
 
     private String unit(boolean lines) {
@@ -295,10 +306,22 @@ public final class MirrorTest {
                 break;
             }
             case 26:
+                if (r.nextBoolean()) {
+                    int[] one = aStanding();
+                    line = one[0];
+                    place = one[1];
+                }
                 same("till " + line + " " + place, m.till(line, place), x.till(line, place));
                 break;
             case 27: {
                 int line2 = aLine(), place2 = aPlace();
+                if (r.nextInt(4) > 0) {
+                    int[] one = aStanding(), other = aStanding();
+                    line = one[0];
+                    place = one[1];
+                    line2 = other[0];
+                    place2 = other[1];
+                }
                 what = near(0, 1);
                 same("together " + line + " " + place + " " + line2 + " " + place2 + " " + what,
                     m.together(line, place, line2, place2, what), x.together(line, place, line2, place2, what));

@@ -554,6 +554,8 @@ final class GoEdges {
         x.set(0, 2);
         best("no place for children", x, 2, 4);
 
+        manyChildren();
+
         doc.says("that which fills most;");
         best("2 rather than 1", x, 2, 4);
         x = Doc.ruled("", 3, 2, 2);
@@ -562,6 +564,33 @@ final class GoEdges {
         best("4 rather than 3", x, 4, 2);
         x = Doc.ruled("", 3, 3);
         best("3, for 6 is above", x, 3, 0);
+        x = Doc.ruled("take 1;", 1, 1, 1, 1, 1);
+        x.set(0, 8);
+        best("five", x, 5, 0, 1, 2, 3, 4);
+        x.set(0, 4);
+        x.chair();
+        x.set(0, 8);
+        best("one, as four have gone", x, 1, 0);
+    }
+
+    private void manyChildren() {
+        SinglesUp x = new SinglesUp();
+        Due.tell(x, 4, "line 3 when first=20;");
+        for (int i = 0; i < 20; i++) {
+            x.come(1, 1, 1);
+        }
+        for (int i = 0; i < 24; i++) {
+            x.come(2, 2, 0);
+        }
+        x.seen(0, 24);
+        x.seen(3, 24);
+        for (int seats = 2; seats <= 8; seats++) {
+            x.set(0, seats);
+            doc.is("so many children and the first of the others on " + seats, seats, x.best(0));
+            doc.is("groups", seats - 1, x.best(1));
+            doc.is("the last one", 300, x.best(8 + seats));
+            doc.is("the last child", seats == 2 ? -1 : seats - 3, seats == 2 ? x.best(11) : x.best(7 + seats));
+        }
     }
 
     private void bestOfSeveral() {

@@ -26,7 +26,13 @@ final class Doc {
     private int checks = 1;
 
     Doc() throws Exception {
-        text = Files.readString(FILE, StandardCharsets.UTF_8).replaceAll("\\s+", " ");
+        // The answers are due without the document, too; then only what is quoted is not looked up.
+        text = Files.exists(FILE) ? Files.readString(FILE, StandardCharsets.UTF_8).replaceAll("\\s+", " ") : null;
+        if (text == null) {
+            System.out.println("There is no " + FILE + ": words are not looked up.");
+            quoted = new boolean[0];
+            return;
+        }
         quoted = new boolean[text.length()];
         strike(0, text.indexOf("An object is used for"));
         strike(text.indexOf("## The public face"), text.indexOf("## Terms"));
@@ -63,6 +69,9 @@ final class Doc {
 
     /** The tests that come now are of the words from this heading to the next. */
     void section(String heading) {
+        if (text == null) {
+            return;
+        }
         from = text.indexOf(heading);
         int next = text.indexOf("## ", from + heading.length());
         int part = text.indexOf("==== ", from + heading.length());
@@ -79,6 +88,9 @@ final class Doc {
         due.is("a test of: " + quote, true, checks > 0);
         quote = words;
         checks = 0;
+        if (text == null) {
+            return;
+        }
         int at = text.indexOf(words, from);
         while (at >= 0 && at + words.length() <= to && quoted[at]) {
             at = text.indexOf(words, at + 1);
