@@ -465,6 +465,14 @@ final class ThoughtEdges {
                 }
             }
         }
+        // Those behind the first one move up with all that they are.
+        x = Doc.ruled("take 9 when size=4 and waited=0;take 5 when size=2;", 1, 4);
+        x.send();
+        Due.tell(x, 4, "line 5 when size=1;");
+        Doc.came(x, 4, 1);
+        doc.is("4, that did not wait, then 2", 2, x.together(0, 0, 5, 0, 0));
+        x.send();
+        doc.is("2, for both 4s have waited", 1, x.together(0, 0, 5, 0, 0));
         x = new SinglesUp();
         Due.tell(x, 4, "line 5 when 1=1;");
         Due.tell(x, 0, "take 1 when line=5;");
