@@ -245,6 +245,16 @@ final class TellEdges {
         doc.is("take 51+1;", 1, x.text(0));
         Doc.came(x, 1);
         doc.is("52", 52, x.group(0, 0, 6));
+        // What stood behind the first n bytes is not there, though a word or a number went on in it.
+        String[] cut = {"taken", "take 12345", "take 1 when1", "take 1/01"};
+        int[][] faults = {{1, 4}, {1, 9}, {1, 11}, {2, 7}};
+        for (int i = 0; i < cut.length; i++) {
+            Due.feed(x, cut[i]);
+            x.end(cut[i].length() - 1);
+            x.text(1);
+            doc.is(cut[i] + ", but for its last byte: the FAULT", faults[i][0], x.fault(0));
+            doc.is(cut[i] + ", but for its last byte: its place", faults[i][1], x.fault(1));
+        }
         Due.feed(x, "take 5;");
         doc.is("0 of 7", true, x.end(0));
         doc.is("nothing is left", 0, x.text(0));

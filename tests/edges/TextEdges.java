@@ -381,6 +381,9 @@ final class TextEdges {
         bad(0, Doc.times(" ", 399) + "x", 1, 399);
         bad(0, Doc.times(" ", 396) + "take", 1, 400);
         bad(0, Doc.times(" ", 391) + "take 1/0;", 2, 398);
+        bad(0, Doc.times(" ", 393) + "take 12", 1, 400);
+        bad(0, Doc.times(" ", 393) + "takes 1", 1, 393);
+        bad(4, Doc.times(" ", 393) + "line 10", 2, 398);
         good(0, Doc.times(" ", 393) + "take 1;", 1);
         good(0, Doc.times(" ", 400), 0);
     }
